@@ -198,6 +198,11 @@ public final class RuneFlow {
         return Math.max(-BOUND, Math.min(BOUND, number));
     }
 
+    /** Where a fault is, as faults tell it. */
+    private static int spot(int id) {
+        return 10000 * (id / FILE_SIZE) + 100 * (id % FILE_SIZE);
+    }
+
     private static int question(int kind, int label, int counter) {
         switch (kind) {
             case AT:
@@ -231,19 +236,22 @@ public final class RuneFlow {
                 return;
             }
             if (at >= cells.length) {
-                cells = Arrays.copyOf(cells, Math.max(at + 1, 2 * cells.length));
+                int twice = 2 * cells.length;
+                cells = Arrays.copyOf(cells, at < twice ? twice : at + 1);
             }
             cells[at] = number;
         }
 
         void fill(int from, int count, int number) {
-            if (from < 0 || count <= 0 || from >= MOST_CELLS - count) {
+            if (from < 0 || count <= 0 || count > MOST_CELLS || from > MOST_CELLS - count) {
                 return;
             }
-            set(from + count - 1, number);
-            if (from + count <= cells.length) {
-                Arrays.fill(cells, from, from + count, number);
+            int end = from + count;
+            if (end > cells.length) {
+                int twice = 2 * cells.length;
+                cells = Arrays.copyOf(cells, end < twice ? twice : end);
             }
+            Arrays.fill(cells, from, end, number);
         }
 
         void copyFrom(Row other, int count) {
@@ -355,16 +363,12 @@ public final class RuneFlow {
             out.thingCount = 0;
         }
 
-        void note(int code, int file, int place) {
+        void note(int code, int spot) {
             faultCount++;
             if (out.faultCount < MOST_FAULTS) {
-                out.noted.set(out.faultCount, 100000 * code + 10000 * file + 100 * place + used);
+                out.noted.set(out.faultCount, 100000 * code + spot + used);
                 out.faultCount++;
             }
-        }
-
-        void noteAt(int code, int id) {
-            note(code, id / FILE_SIZE, id % FILE_SIZE);
         }
 
         void ask(int question) {
@@ -412,13 +416,14 @@ public final class RuneFlow {
         }
 
         int firstItem(int id) {
-            return part(id, 0);
+            return cells.get(id * SLOTS) - 1;
         }
 
         int nextItem(int id) {
-            return part(id, NEXT);
+            return cells.get(id * SLOTS + NEXT) - 1;
         }
 
+        /** The names that a FUNC or LATE looks at, as bits; without those that a call of it tells itself. */
         int namesUsed(int id) {
             return cells.get(id * SLOTS + NAMES_USED);
         }
@@ -433,7 +438,7 @@ public final class RuneFlow {
 
         /** The name of the LET whose part this FUNC is, or NONE. */
         int letName(int id) {
-            return part(id, LET_NAME);
+            return cells.get(id * SLOTS + LET_NAME) - 1;
         }
 
         void read(int fileToRead) {
@@ -457,7 +462,7 @@ public final class RuneFlow {
             int owner = top(OPEN_OWNER);
             if (place >= files.size(file)) {
                 if (owner < ROOTS) {
-                    round.note(OPEN_END, file, place);
+                    round.note(OPEN_END, 10000 * file + 100 * place);
                 }
                 openCount--;
                 return;
@@ -470,7 +475,7 @@ public final class RuneFlow {
                 return;
             }
             if (formula ? kind != WORD && kind != CODE : kind > MATH) {
-                round.noteAt(TOKEN, id);
+                round.note(TOKEN, spot(id));
                 return;
             }
             int around = top(OPEN_AROUND);
@@ -499,7 +504,7 @@ public final class RuneFlow {
             boolean ended = place >= files.size(file);
             int kind = files.kind(id);
             if (ended || kind < NUMBER) {
-                round.note(ended ? OPEN_END : TOKEN, file, place);
+                round.note(ended ? OPEN_END : TOKEN, 10000 * file + 100 * place);
                 if (!ended && kind != END) {
                     place++;
                 }
@@ -526,16 +531,18 @@ public final class RuneFlow {
             }
         }
 
-        /** Every FUNC and LATE around looks at this name, or imports, when it is run. */
+        /** Every FUNC and LATE around looks at this name, but for those that tell it themselves, or imports. */
         private void tellAround(int id, int kind) {
+            int name = files.number(id) % NAMES;
             int around = cells.get(id * SLOTS + AROUND) - 1;
             for (int left = FILE_SIZE; left > 0 && around != NONE; left--) {
-                if (kind == NAME) {
-                    cells.set(around * SLOTS + NAMES_USED, namesUsed(around) | 1 << files.number(id) % NAMES);
-                } else {
-                    cells.set(around * SLOTS + IMPORTS, 1);
+                int at = around * SLOTS;
+                if (kind == IMPORT) {
+                    cells.set(at + IMPORTS, 1);
+                } else if (files.kind(around) != FUNC || files.number(around) % NAMES != name && cells.get(at + LET_NAME) != name + 1) {
+                    cells.set(at + NAMES_USED, cells.get(at + NAMES_USED) | 1 << name);
                 }
-                around = cells.get(around * SLOTS + AROUND) - 1;
+                around = cells.get(at + AROUND) - 1;
             }
         }
 
@@ -988,7 +995,8 @@ public final class RuneFlow {
             frames.clear();
             fileStates.fill(0, FILES, 0);
             tree.read(0);
-            openFile(0);
+            openScope(NOTHING);
+            openText(ROOTS);
         }
 
         int nameInFile(int file, int name) {
@@ -996,7 +1004,7 @@ public final class RuneFlow {
         }
 
         private int wrong(int code, int id) {
-            round.noteAt(code, id);
+            round.note(code, spot(id));
             return WRONG;
         }
 
@@ -1004,7 +1012,7 @@ public final class RuneFlow {
         void noteFunctions(int id) {
             int functions = heap.functionsIn(value);
             for (int i = 0; i < functions; i++) {
-                round.noteAt(KIND, id);
+                round.note(KIND, spot(id));
             }
         }
 
@@ -1015,7 +1023,7 @@ public final class RuneFlow {
             names.fill(scope * NAMES, NAMES, UNNAMED);
             int bound = closed;
             for (int left = NAMES; left > 0 && bound >= NODES; left--) {
-                setName(heap.get(bound, Heap.INFO), heap.get(bound, Heap.LEFT));
+                names.set(scope * NAMES + heap.get(bound, Heap.INFO), heap.get(bound, Heap.LEFT));
                 bound = heap.get(bound, Heap.RIGHT);
             }
         }
@@ -1032,8 +1040,8 @@ public final class RuneFlow {
         }
 
         /** The names that a FUNC or LATE looks at, as they are now, chained. */
-        private int closeOver(int id, int bound) {
-            int used = tree.namesUsed(id) & ~bound;
+        private int closeOver(int id) {
+            int used = tree.namesUsed(id);
             int closed = NOTHING;
             for (int name = 0; name < NAMES; name++) {
                 int named = names.get(scope * NAMES + name);
@@ -1042,12 +1050,6 @@ public final class RuneFlow {
                 }
             }
             return closed;
-        }
-
-        /** The names that a call itself tells in the body of its FUNC. */
-        private int boundBy(int function) {
-            int letName = tree.letName(function);
-            return 1 << files.number(function) % NAMES | (letName == NONE ? 0 : 1 << letName);
         }
 
         // ---- expressions
@@ -1069,10 +1071,10 @@ public final class RuneFlow {
                     }
                     break;
                 case FUNC:
-                    value = heap.make(Heap.A_FUNCTION, closeOver(id, boundBy(id)), NOTHING, id, 0);
+                    value = heap.make(Heap.A_FUNCTION, closeOver(id), NOTHING, id, 0);
                     break;
                 case LATE:
-                    value = heap.make(Heap.A_LATE, closeOver(id, 0), NOTHING, id, 0);
+                    value = heap.make(Heap.A_LATE, closeOver(id), NOTHING, id, 0);
                     break;
                 case NOW:
                 case PAGE:
@@ -1231,7 +1233,11 @@ public final class RuneFlow {
 
         /** The part's value, or WRONG with the fault that is due if it is of another kind than it has to be. */
         private int mend(int id, boolean isDue) {
-            return value == WRONG || isDue ? value : wrong(KIND, id);
+            if (value == WRONG || isDue) {
+                return value;
+            }
+            round.note(KIND, spot(id));
+            return WRONG;
         }
 
         private void addSetting(int property) {
@@ -1285,7 +1291,8 @@ public final class RuneFlow {
                 } else if (state != RUN) {
                     depth = 0;
                     tree.read(file);
-                    openFile(file);
+                    openScope(NOTHING);
+                    openText(ROOTS + file);
                 }
                 return;
             }
@@ -1358,7 +1365,7 @@ public final class RuneFlow {
                 numbers.set(heap.get(bound, Heap.INFO), heap.get(bound, Heap.LEFT));
                 bound = heap.get(bound, Heap.RIGHT);
             }
-            int used = tree.namesUsed(id) & ~boundBy(id);
+            int used = tree.namesUsed(id);
             for (int name = 0; name < NAMES; name++) {
                 if ((used >> name & 1) != 0 && !isNumber(numbers.get(name))) {
                     return false;
@@ -1438,13 +1445,10 @@ public final class RuneFlow {
 
         // ---- texts and formulas
 
-        private void openFile(int file) {
-            fileStates.set(file, RUNNING);
-            openScope(NOTHING);
-            openText(ROOTS + file);
-        }
-
         private void openText(int owner) {
+            if (owner >= ROOTS) {
+                fileStates.set(owner - ROOTS, RUNNING);
+            }
             frames.push(Frames.TEXT, owner);
             frames.set(Frames.ITEM, tree.firstItem(owner));
             frames.set(Frames.SEQUENCE, NOTHING);
@@ -1617,9 +1621,13 @@ public final class RuneFlow {
             int what = heap.get(piece, Heap.WHAT);
             switch (what) {
                 case Heap.A_JOIN:
+                    pushBoth(piece);
+                    break;
                 case Heap.A_PAIR:
-                    frames.push(Frames.PIECE, heap.get(piece, Heap.RIGHT));
-                    frames.push(Frames.PIECE, heap.get(piece, Heap.LEFT));
+                    // pairs of nothing, doubled again and again, have too many ends to look at them all
+                    if (heap.isFilled(piece)) {
+                        pushBoth(piece);
+                    }
                     break;
                 case Heap.A_SCOPE:
                     frames.push(Frames.SCOPE, piece);
@@ -1642,10 +1650,15 @@ public final class RuneFlow {
             }
         }
 
+        private void pushBoth(int piece) {
+            frames.push(Frames.PIECE, heap.get(piece, Heap.RIGHT));
+            frames.push(Frames.PIECE, heap.get(piece, Heap.LEFT));
+        }
+
         private void realize(int piece, int what) {
             elements++;
             if (elements > MOST_ELEMENTS) {
-                round.note(LONG, 0, 0);
+                round.note(LONG, 0);
                 frames.clear();
                 return;
             }
@@ -1766,7 +1779,7 @@ public final class RuneFlow {
                 if (within <= MOST_WITHIN) {
                     frames.push(Frames.PIECE, heap.get(heading, Heap.LEFT));
                 } else {
-                    round.noteAt(DEEP, heap.get(heading, Heap.INFO));
+                    round.note(DEEP, spot(heap.get(heading, Heap.INFO)));
                 }
                 return;
             }
@@ -1826,11 +1839,11 @@ public final class RuneFlow {
         /** Whether what a rule or LATE comes to may still be run and realized; otherwise the fault is noted. */
         private boolean mayCome(int id) {
             if (within >= MOST_WITHIN) {
-                round.noteAt(DEEP, id);
+                round.note(DEEP, spot(id));
                 return false;
             }
             if (round.begun >= MOST_BEGUN) {
-                round.noteAt(LONG, id);
+                round.note(LONG, spot(id));
                 return false;
             }
             return true;
@@ -1893,49 +1906,45 @@ public final class RuneFlow {
             for (int steps = 0; steps < MOST_STEPS && (runner.due != NONE || frames.size() > 0); steps++) {
                 if (runner.due != NONE) {
                     runner.begin();
-                } else {
-                    step(frames.get(Frames.WHAT));
+                    continue;
                 }
-            }
-        }
-
-        private void step(int what) {
-            switch (what) {
-                case Frames.TWO:
-                    runner.stepTwo();
-                    break;
-                case Frames.ONE:
-                    runner.stepOne();
-                    break;
-                case Frames.CHOICE:
-                    runner.stepChoice();
-                    break;
-                case Frames.CALLING:
-                    runner.stepCall();
-                    break;
-                case Frames.IMPORTING:
-                    runner.stepImport();
-                    break;
-                case Frames.TEXT:
-                    runner.stepText();
-                    break;
-                case Frames.FORMULA:
-                    runner.stepFormula();
-                    break;
-                case Frames.PIECE:
-                    setter.stepPiece();
-                    break;
-                case Frames.SCOPE:
-                    setter.stepScope();
-                    break;
-                case Frames.HEADING:
-                    setter.stepHeading();
-                    break;
-                case Frames.RULE:
-                    setter.stepRule();
-                    break;
-                default:
-                    setter.stepLater();
+                switch (frames.get(Frames.WHAT)) {
+                    case Frames.TWO:
+                        runner.stepTwo();
+                        break;
+                    case Frames.ONE:
+                        runner.stepOne();
+                        break;
+                    case Frames.CHOICE:
+                        runner.stepChoice();
+                        break;
+                    case Frames.CALLING:
+                        runner.stepCall();
+                        break;
+                    case Frames.IMPORTING:
+                        runner.stepImport();
+                        break;
+                    case Frames.TEXT:
+                        runner.stepText();
+                        break;
+                    case Frames.FORMULA:
+                        runner.stepFormula();
+                        break;
+                    case Frames.PIECE:
+                        setter.stepPiece();
+                        break;
+                    case Frames.SCOPE:
+                        setter.stepScope();
+                        break;
+                    case Frames.HEADING:
+                        setter.stepHeading();
+                        break;
+                    case Frames.RULE:
+                        setter.stepRule();
+                        break;
+                    default:
+                        setter.stepLater();
+                }
             }
         }
     }

@@ -150,6 +150,7 @@ public final class PromiseTests {
         functions();
         callFaults();
         contents();
+        doubledContents();
         settings();
         rules();
         rulesInRules();
@@ -468,6 +469,27 @@ public final class PromiseTests {
         // twice the same, forty times: of nothing that is nothing
         lays("doubled emptiness", doc(together(new int[] {CODE, 0, LET, 0, BLOCK, 0, END, 0}, times(10, CODE, 0, LET, 0, JOIN, 0, NAME, 0, NAME, 0))));
         lays("doubled NOTHING", doc(together(new int[] {CODE, 0, LET, 0, LET, 1, NUMBER, 0}, times(10, CODE, 0, LET, 0, PAIR, 0, NAME, 0, NAME, 0), new int[] {CODE, 0, NAME, 0})));
+    }
+
+    /** Forty doublings: what is held once is told often, and can't be walked through. */
+    private static void doubledContents() {
+        int[] fourTimes = {CODE, 0, LET, 0, FUNC, 1, PAIR, 0, PAIR, 0, NAME, 1, NAME, 1, PAIR, 0, NAME, 1, NAME, 1};
+        int[] often = together(new int[] {CODE, 0, LET, 3}, times(20, CALL, 0, NAME, 0));
+        RuneFlow flow = doc(together(fourTimes, often, new int[] {LET, 4, NUMBER, 1, CODE, 0, PAIR, 0, NAME, 3, NUMBER, 1}));
+        lays("a pair of nothing and a number", flow, 1001);
+        flow = doc(together(fourTimes, often, new int[] {LET, 4, NUMBER, 1, CODE, 0, HEAD, 0, NAME, 3, WORD, 5}));
+        lays("a heading of nothing", flow, 5);
+        due("counts", flow.answer(COUNT, 0, 0), 1);
+        flow = doc(together(fourTimes, often, new int[] {FUNC, 4, NUMBER, 1, CODE, 0, PAIR, 0, NAME, 3, NUMBER, 1}));
+        flow.compile();
+        due("functions, doubled", flow.faults(), 60);
+        due("at the pair", flow.fault(59), at(KIND, 55));
+        words("and the number", flow, 1001);
+        flow = doc(together(fourTimes, often, new int[] {NUMBER, 1, CODE, 0, LET, 5, MEASURE, 0, NAME, 3}));
+        flow.compile();
+        due("numbers, doubled", flow.valueOf(5), 9999);
+        flow = doc(together(fourTimes, new int[] {CODE, 0, LET, 3}, times(18, CALL, 0, NAME, 0), new int[] {BLOCK, 0, CODE, 0, SET, 0, NUMBER, 2, END, 0, CODE, 0, PAIR, 0, NAME, 3, NUMBER, 1}));
+        lays("blocks of nothing, doubled", flow, 1001);
     }
 
     private static void settings() {
