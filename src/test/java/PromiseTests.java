@@ -167,6 +167,9 @@ public final class PromiseTests {
         memoryKeys();
         memoryOfQuestions();
         memoryBounds();
+        memoryNesting();
+        memoryOfFiles();
+        fresh();
         things();
         manyFaults();
         answers();
@@ -357,6 +360,9 @@ public final class PromiseTests {
         value("not LESS", 0, LESS, 0, NUMBER, 7, NUMBER, 7);
         value("bound above", 9999, ADD, 0, NUMBER, 1, MUL, 0, NUMBER, 99, MUL, 0, NUMBER, 99, NUMBER, 99);
         value("bound below", -9999, SUB, 0, SUB, 0, NUMBER, 0, MUL, 0, NUMBER, 99, NUMBER, 99, MUL, 0, NUMBER, 99, NUMBER, 99);
+        int[] lowest = {SUB, 0, SUB, 0, NUMBER, 0, MUL, 0, NUMBER, 99, NUMBER, 99, MUL, 0, NUMBER, 99, NUMBER, 99};
+        value("the lowest number is one", -9998, together(new int[] {ADD, 0, NUMBER, 1}, lowest));
+        value("and so is the highest", 9998, together(new int[] {ADD, 0, SUB, 0, NUMBER, 0, NUMBER, 1, SUB, 0, NUMBER, 0}, lowest));
         value("up to the bound", 9998, ADD, 0, MUL, 0, NUMBER, 99, NUMBER, 99, ADD, 0, NUMBER, 98, NUMBER, 99);
         value("IF", 1, IF, 0, NUMBER, 5, NUMBER, 1, NUMBER, 2);
         value("IF of less than 0", 1, IF, 0, SUB, 0, NUMBER, 0, NUMBER, 5, NUMBER, 1, NUMBER, 2);
@@ -522,6 +528,11 @@ public final class PromiseTests {
         flow.compile();
         due("set inside", flow.thing(0, 5), 2);
         due("set around", flow.thing(1, 5), 3);
+        // a block that is run first does not take the SET of the CODE around it
+        flow = doc(CODE, 0, JOIN, 0, BLOCK, 0, WORD, 1, END, 0, SET, 0, NUMBER, 2, WORD, 2);
+        flow.compile();
+        due("SET behind a block, for its own item", flow.thing(0, 5), 1);
+        due("SET behind a block, for the next one", flow.thing(1, 5), 2);
         fails("SET of a block", doc(CODE, 0, SET, 0, BLOCK, 0, END, 0), at(KIND, 1));
         fails("SET of WRONG", doc(CODE, 0, SET, 0, NAME, 0), at(UNKNOWN, 2));
         fails("SHOW of a number", doc(CODE, 0, SHOW, 0, NUMBER, 0), at(KIND, 1));
@@ -769,10 +780,32 @@ public final class PromiseTests {
         value("pair", 2, MEASURE, 0, PAIR, 0, NUMBER, 1, NUMBER, 2);
         value("no rules", 1, MEASURE, 0, BLOCK, 0, CODE, 0, SHOW, 3, FUNC, 0, JOIN, 0, NAME, 0, NAME, 0, WORD, 1, END, 0);
         value("a SIZE around does not matter", 1, PICK, 1, PAIR, 0, SET, 0, NUMBER, 3, MEASURE, 0, NUMBER, 1);
-        RuneFlow flow = doc(together(new int[] {CODE, 0, LET, 1, BLOCK, 0, WORD, 1, WORD, 1, WORD, 1, END, 0},
-            times(10, CODE, 0, LET, 1, JOIN, 0, NAME, 1, NAME, 1), new int[] {CODE, 0, LET, 9}));
-        add(flow, 1, CODE, 0, LET, 1, IMPORT, 2);
+        value("SET is for the next item", 4, MEASURE, 0, BLOCK, 0, CODE, 0, JOIN, 0, SET, 0, NUMBER, 3, BLOCK, 0, WORD, 1, END, 0, WORD, 1, END, 0);
+        value("SET to 1 again", 4, MEASURE, 0, BLOCK, 0, CODE, 0, SET, 0, NUMBER, 3, WORD, 1, CODE, 0, SET, 0, NUMBER, 1, WORD, 1, END, 0);
+        value("INDENT is no SIZE", 4, MEASURE, 0, BLOCK, 0, CODE, 0, SET, 0, NUMBER, 2, WORD, 1, CODE, 0, SET, 1, NUMBER, 3, WORD, 1, END, 0);
+        int[] one = {BLOCK, 0, WORD, 1, END, 0};
+        for (int size = 1; size <= 3; size++) {
+            int[] set = {MEASURE, 0, BLOCK, 0, CODE, 0, SET, 0, NUMBER, size, CODE, 0};
+            value("joined in SIZE " + size, 2 * size, together(set, new int[] {JOIN, 0}, one, one, new int[] {END, 0}));
+            value("paired in SIZE " + size, 2 * size, together(set, new int[] {PAIR, 0}, one, one, new int[] {END, 0}));
+            value("heading in SIZE " + size, size, together(set, new int[] {HEAD, 0}, one, new int[] {END, 0}));
+            value("block in block in SIZE " + size, size, together(set, new int[] {BLOCK, 0, CODE, 0}, one, new int[] {END, 0, END, 0}));
+        }
+        // what has no width has none in the place of what had some in the round before
+        RuneFlow flow = doc(CODE, 0, IF, 0, LAST, 0, BLOCK, 0, BREAK, 0, LABEL, 0, END, 0, BLOCK, 0, WORD, 1, WORD, 2, END, 0,
+            CODE, 0, LET, 9, MEASURE, 0, BLOCK, 0, CODE, 0, SET, 0, NUMBER, 3, BREAK, 0, LABEL, 1, BREAK, 0, CODE, 0, STEP, 0, NUMBER, 1, END, 0, WORD, 1);
         flow.compile();
+        due("nothing in SIZE 3", flow.valueOf(9), 0);
+        flow.put(0, 0, WORD, 1);
+        flow.put(0, 0, WORD, 1);
+        flow.compile();
+        due("nothing in SIZE 3 behind words", flow.valueOf(9), 0);
+        RuneFlow two = doc(times(30, WORD, 1));
+        two.compile();
+        clear(two, 0);
+        add(two, 0, CODE, 0, LET, 9, MEASURE, 0, BLOCK, 0, CODE, 0, SET, 0, NUMBER, 2, BREAK, 0, LABEL, 1, BREAK, 0, CODE, 0, LATE, 0, NUMBER, 1, END, 0);
+        two.compile();
+        due("nothing in SIZE 2", two.valueOf(9), 0);
         flow = new RuneFlow();
         add(flow, 0, CODE, 0, LET, 1, IMPORT, 11, CODE, 0, LET, 9, MEASURE, 0, NAME, 1, MATH, 0, WORD, 1, CODE, 0, NAME, 1, END, 0);
         add(flow, 0, times(6, CODE, 0, LET, 1, JOIN, 0, NAME, 1, NAME, 1));
@@ -865,6 +898,13 @@ public final class PromiseTests {
         due("other numbers, run: the outer function looks at the name 2, which has none there", flow.ran(), 2 + 3 + 3);
         due("other numbers, taken", flow.taken(), 1 + 3);
         due("other numbers, kept", flow.kept(), 2);
+        // the numbers of the name 0, and of two names and more
+        flow = doc(CODE, 0, LET, 2, FUNC, 0, FUNC, 1, ADD, 0, NAME, 0, NAME, 1, CODE, 0, CALL, 0, CALL, 0, NAME, 2, NUMBER, 3, NUMBER, 1, CODE, 0, CALL, 0, CALL, 0, NAME, 2, NUMBER, 4, NUMBER, 1);
+        lays("the number of the name 0", flow, 1004, 1005);
+        flow = doc(CODE, 0, LET, 2, NUMBER, 3, CODE, 0, LET, 3, NUMBER, 4, CODE, 0, LET, 4, NUMBER, 5, CODE, 0, CALL, 0, FUNC, 1, ADD, 0, NAME, 2, ADD, 0, NAME, 3, ADD, 0, NAME, 4, NAME, 1, NUMBER, 6);
+        lays("four numbers", flow, 1018);
+        due("four numbers, kept", flow.kept(), 1);
+        due("four numbers, taken", flow.taken(), 1);
         // FUNCs at two places are two
         flow = doc(CODE, 0, CALL, 0, FUNC, 1, NAME, 1, NUMBER, 1, CODE, 0, CALL, 0, FUNC, 1, NAME, 1, NUMBER, 1);
         flow.compile();
@@ -884,6 +924,15 @@ public final class PromiseTests {
         flow = doc(CODE, 0, LET, 0, FUNC, 1, IF, 0, NAME, 1, ADD, 0, NUMBER, 1, CALL, 0, NAME, 0, NUMBER, 0, LAST, 0, CODE, 0, CALL, 0, NAME, 0, NUMBER, 0, CODE, 0, CALL, 0, NAME, 0, NUMBER, 1);
         lays("asked by a call that was taken", flow, 1001, 1002);
         due("asked by those around", flow.kept(), 4);
+        // the counter 0 at the label 0 is 0, then 7
+        flow = doc(CODE, 0, STEP, 0, NUMBER, 7, LABEL, 0, CODE, 0, CALL, 0, FUNC, 1, AT, 0, NUMBER, 5);
+        flow.compile();
+        words("AT 0 in a call", flow, 1007);
+        due("AT 0 in a call, kept", flow.kept(), 2);
+        // a call around one that is taken asks it for the label 0 too
+        flow = doc(CODE, 0, LET, 0, FUNC, 1, IF, 0, NAME, 1, ADD, 0, NUMBER, 1, CALL, 0, NAME, 0, NUMBER, 0, AT, 0, CODE, 0, CALL, 0, NAME, 0, NUMBER, 0,
+            CODE, 0, CALL, 0, NAME, 0, NUMBER, 1, CODE, 0, STEP, 0, NUMBER, 7, LABEL, 0);
+        lays("AT 0 asked by a call that was taken", flow, 1007, 1008);
         // NOW: the counter is 0, then 1, then 1 again
         flow = doc(CODE, 0, LET, 0, FUNC, 1, NOW, 0, CODE, 0, LATE, 0, CALL, 0, NAME, 0, NUMBER, 5, CODE, 0, STEP, 0, NUMBER, 1,
             CODE, 0, LATE, 0, CALL, 0, NAME, 0, NUMBER, 5, CODE, 0, LATE, 0, CALL, 0, NAME, 0, NUMBER, 5);
@@ -925,6 +974,117 @@ public final class PromiseTests {
                 full.put(0, 6 + 4 * i, NUMBER, 14 * turn + i);
             }
         }
+    }
+
+    /** How calls were in one another is told of calls that are taken, too, and of all in one call, not of the last. */
+    private static void memoryNesting() {
+        int[] down = {CODE, 0, LET, 0, FUNC, 1, IF, 0, NAME, 1, CALL, 0, NAME, 0, SUB, 0, NAME, 1, NUMBER, 1, NUMBER, 7};
+        // f(4) is 4 deep; f(6) takes it, and is 6 deep; three calls around are too many for f(6), two are not
+        int[] taken = {CODE, 0, CALL, 0, NAME, 0, NUMBER, 4, CODE, 0, CALL, 0, NAME, 0, NUMBER, 6};
+        int[] around = {CALL, 0, FUNC, 2};
+        RuneFlow flow = doc(together(down, taken, new int[] {CODE, 0}, around, new int[] {CALL, 0, NAME, 0, NUMBER, 6, NUMBER, 1}));
+        lays("one around f(6)", flow, 1007, 1007, 1007);
+        due("one around f(6), run", flow.ran(), 5 + 2 + 1 + 1);
+        flow = doc(together(down, taken, new int[] {CODE, 0}, around, around, new int[] {CALL, 0, NAME, 0, NUMBER, 6, NUMBER, 1, NUMBER, 1}));
+        fails("two around f(6)", flow, at(DEEP, 5));
+        // f(10) calls f(5) and then f(0): it is 7 deep, whatever the last one is
+        int[] first = {CODE, 0, LET, 0, FUNC, 1, IF, 0, LESS, 0, NAME, 1, NUMBER, 1, NUMBER, 7, IF, 0, LESS, 0, NUMBER, 9, NAME, 1,
+            ADD, 0, CALL, 0, NAME, 0, NUMBER, 5, CALL, 0, NAME, 0, NUMBER, 0, CALL, 0, NAME, 0, SUB, 0, NAME, 1, NUMBER, 1};
+        flow = doc(together(first, new int[] {CODE, 0, CALL, 0, NAME, 0, NUMBER, 10, CODE, 0}, around, new int[] {CALL, 0, NAME, 0, NUMBER, 10, NUMBER, 1}));
+        flow.compile();
+        words("f(10) is f(5) and f(0)", flow, 1014, 1014);
+        due("f(10), kept", flow.kept(), 7);
+        flow = doc(together(first, new int[] {CODE, 0, CALL, 0, NAME, 0, NUMBER, 10, CODE, 0}, around, around, new int[] {CALL, 0, NAME, 0, NUMBER, 10, NUMBER, 1, NUMBER, 1}));
+        fails("two around f(10)", flow, at(DEEP, 19));
+        longBounds();
+        deepBehindRules();
+    }
+
+    /** A call that is kept is taken as long as the turn of the one within it comes when 299 were begun, not 300. */
+    private static void longBounds() {
+        for (int more = 0; more <= 1; more++) {
+            RuneFlow flow = new RuneFlow();
+            // the turn of the call within comes 7 behind that of f(1): IF NAME ADD NUMBER CALL NAME NUMBER; f(1) begins 10
+            add(flow, 1, CODE, 0, LET, 0, FUNC, 1, IF, 0, NAME, 1, ADD, 0, NUMBER, 1, CALL, 0, NAME, 0, NUMBER, 0, NUMBER, 5);
+            // h begins 49
+            add(flow, 2, together(new int[] {CODE, 0, LET, 0, FUNC, 1, BLOCK, 0}, times(48, BREAK, 0), new int[] {END, 0}));
+            add(flow, 0, CODE, 0, LET, 0, IMPORT, 10, CODE, 0, LET, 2, IMPORT, 20, CODE, 0, LET, 3, CALL, 0, NAME, 0, NUMBER, 1);
+            add(flow, 0, times(4, CODE, 0, LET, 4, CALL, 0, NAME, 2, NUMBER, 1));
+            int begun = 6 + 6 + 5 + 10 + 4 * (5 + 49);
+            int words = 299 - 7 - 5 - begun + more;
+            // the file 0 has room for 20 of them, the others are begun by the file 1
+            add(flow, 0, times(20, WORD, 1));
+            add(flow, 1, times(words - 20, BREAK, 0));
+            add(flow, 0, CODE, 0, LET, 5, CALL, 0, NAME, 0, NUMBER, 1);
+            flow.compile();
+            due("faults, where the bound is missed by " + more, flow.faults(), more);
+            due("LONG is where the call within stands", more == 0 ? 0 : flow.fault(0), more == 0 ? 0 : 100000 * LONG + 10000 + 100 * 7);
+            due("and it was taken or not", flow.valueOf(5), more == 0 ? 6 : WRONG);
+            due("as anew at the bound", flow.isAsAnew(), true);
+        }
+    }
+
+    /** A rule's call ends: it is not around what comes by a LATE behind it. */
+    private static void deepBehindRules() {
+        int[] down = {CODE, 0, LET, 0, FUNC, 1, IF, 0, NAME, 1, CALL, 0, NAME, 0, SUB, 0, NAME, 1, NUMBER, 1, NUMBER, 7};
+        RuneFlow flow = doc(together(down, new int[] {CODE, 0, SHOW, 5, FUNC, 1, NAME, 1, WORD, 3, WORD, 3, CODE, 0, LATE, 0, CALL, 0, NAME, 0, NUMBER, 7}));
+        lays("eight calls behind a rule", flow, 3, 3, 1007);
+        flow = doc(together(down, new int[] {CODE, 0, SHOW, 5, FUNC, 1, CALL, 0, NAME, 0, NUMBER, 6, WORD, 3}));
+        lays("seven calls within a rule", flow, 1007);
+        flow = doc(together(down, new int[] {CODE, 0, SHOW, 5, FUNC, 1, CALL, 0, NAME, 0, NUMBER, 7, WORD, 3}));
+        fails("eight calls within a rule", flow, at(DEEP, 5));
+    }
+
+    private static void memoryOfFiles() {
+        RuneFlow flow = doc(CODE, 0, CALL, 0, IMPORT, 10, NUMBER, 4, CODE, 0, CALL, 0, IMPORT, 20, NUMBER, 4, CODE, 0, CALL, 0, IMPORT, 20, NUMBER, 5);
+        add(flow, 1, CODE, 0, LET, 0, FUNC, 1, ADD, 0, NAME, 1, NUMBER, 1);
+        add(flow, 2, CODE, 0, LET, 0, FUNC, 1, JOIN, 0, NAME, 1, BLOCK, 0, WORD, 9, END, 0);
+        lays("of two files", flow, 1005, 1004, 9, 1005, 9);
+        due("of two files, kept", flow.kept(), 3);
+        flow.cut(1, 4);
+        flow.put(1, 4, NAME, 1);
+        due("of the other file", flow.kept(), 2);
+        lays("of the other file", flow, 1005, 1004, 9, 1005, 9);
+        due("of the other file, run", flow.ran(), 1);
+        due("of the other file, taken", flow.taken(), 5);
+        flow.cut(2, 4);
+        due("of the first file", flow.kept(), 1);
+        flow.put(2, 4, NAME, 1);
+        lays("of the first file", flow, 1005, 1004, 9, 1005, 9);
+        due("of the first file, run", flow.ran(), 2);
+    }
+
+    /** Nothing of a round or compiling is left over for the next one. */
+    private static void fresh() {
+        RuneFlow flow = doc(CODE, 0, STEP, 0, NUMBER, 7, LABEL, 1, CODE, 0, STEP, 0, NUMBER, 1, LABEL, 0, WORD, 1);
+        flow.compile();
+        due("label 1", flow.answer(AT, 1, 0), 7);
+        due("label 0", flow.answer(AT, 0, 0), 8);
+        clear(flow, 0);
+        due("nothing, rounds", flow.compile(), 1);
+        due("nothing is laid", flow.laid(), 0);
+        due("no label 0", flow.answer(AT, 0, 0), 0);
+        // the 201st comes in headings, with an INDENT, a rule and a SIZE
+        RuneFlow abort = new RuneFlow();
+        add(abort, 1, together(new int[] {CODE, 0, LET, 0, BLOCK, 0}, times(50, WORD, 2), new int[] {END, 0}));
+        add(abort, 0, WORD, 3, BREAK, 0, WORD, 3, CODE, 0, LET, 0, IMPORT, 10, CODE, 0, BLOCK, 0, CODE, 0, SET, 0, NUMBER, 2, CODE, 0, SET, 1, NUMBER, 3, CODE, 0, SHOW, 5, FUNC, 1, NUMBER, 7);
+        add(abort, 0, together(new int[] {CODE, 0}, times(12, HEAD, 0), new int[] {JOIN, 0, NAME, 0, JOIN, 0, NAME, 0, JOIN, 0, NAME, 0, NAME, 0, END, 0}));
+        fails("the 201st, deep within", abort, 100000 * LONG);
+        thing("first of what is full", abort, 0, 3, 1, 0, 0, 0, 1);
+        thing("second of what is full", abort, 1, 3, 1, 0, 1, 0, 1);
+        due("laid of what is full", abort.laid(), 200 - 12 - 1);
+        clear(abort, 0);
+        add(abort, 0, together(new int[] {WORD, 3, BREAK, 0, WORD, 3, CODE, 0}, times(12, HEAD, 0), new int[] {NUMBER, 1}));
+        lays("behind what was full", abort, 3, 3, 1001);
+        thing("third behind what was full", abort, 2, 1001, 1, 0, 2, 0, 1);
+        // a LATE looks at ten names
+        int[] names = {};
+        int[] sum = {CODE, 0, LATE, 0};
+        for (int name = 0; name < 10; name++) {
+            names = together(names, new int[] {CODE, 0, LET, name, NUMBER, name});
+            sum = together(sum, name < 9 ? new int[] {ADD, 0, NAME, name} : new int[] {NAME, name});
+        }
+        lays("ten names", doc(together(names, sum)), 1045);
     }
 
     // ---- promises 12 to 17
