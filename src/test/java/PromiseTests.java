@@ -800,12 +800,14 @@ public final class PromiseTests {
         flow.put(0, 0, WORD, 1);
         flow.compile();
         due("nothing in SIZE 3 behind words", flow.valueOf(9), 0);
-        RuneFlow two = doc(times(30, WORD, 1));
-        two.compile();
-        clear(two, 0);
-        add(two, 0, CODE, 0, LET, 9, MEASURE, 0, BLOCK, 0, CODE, 0, SET, 0, NUMBER, 2, BREAK, 0, LABEL, 1, BREAK, 0, CODE, 0, LATE, 0, NUMBER, 1, END, 0);
-        two.compile();
-        due("nothing in SIZE 2", two.valueOf(9), 0);
+        for (int size = 2; size <= 3; size++) {
+            RuneFlow other = doc(times(60, WORD, 1));
+            other.compile();
+            clear(other, 0);
+            add(other, 0, CODE, 0, LET, 9, MEASURE, 0, BLOCK, 0, CODE, 0, SET, 0, NUMBER, size, BREAK, 0, LABEL, 1, BREAK, 0, CODE, 0, LATE, 0, NUMBER, 1, END, 0);
+            other.compile();
+            due("nothing in SIZE " + size, other.valueOf(9), 0);
+        }
         flow = new RuneFlow();
         add(flow, 0, CODE, 0, LET, 1, IMPORT, 11, CODE, 0, LET, 9, MEASURE, 0, NAME, 1, MATH, 0, WORD, 1, CODE, 0, NAME, 1, END, 0);
         add(flow, 0, times(6, CODE, 0, LET, 1, JOIN, 0, NAME, 1, NAME, 1));
@@ -987,13 +989,14 @@ public final class PromiseTests {
         due("one around f(6), run", flow.ran(), 5 + 2 + 1 + 1);
         flow = doc(together(down, taken, new int[] {CODE, 0}, around, around, new int[] {CALL, 0, NAME, 0, NUMBER, 6, NUMBER, 1, NUMBER, 1}));
         fails("two around f(6)", flow, at(DEEP, 5));
-        // f(10) calls f(5) and then f(0): it is 7 deep, whatever the last one is
-        int[] first = {CODE, 0, LET, 0, FUNC, 1, IF, 0, LESS, 0, NAME, 1, NUMBER, 1, NUMBER, 7, IF, 0, LESS, 0, NUMBER, 9, NAME, 1,
-            ADD, 0, CALL, 0, NAME, 0, NUMBER, 5, CALL, 0, NAME, 0, NUMBER, 0, CALL, 0, NAME, 0, SUB, 0, NAME, 1, NUMBER, 1};
+        // f(10) calls f(6), down to f(1), and then f(0), which was not kept ahead: it is 7 deep, whatever the last one is
+        int[] first = {CODE, 0, LET, 0, FUNC, 1, IF, 0, LESS, 0, NAME, 1, NUMBER, 2, NUMBER, 7, IF, 0, LESS, 0, NUMBER, 9, NAME, 1,
+            ADD, 0, CALL, 0, NAME, 0, NUMBER, 6, CALL, 0, NAME, 0, NUMBER, 0, CALL, 0, NAME, 0, SUB, 0, NAME, 1, NUMBER, 1};
         flow = doc(together(first, new int[] {CODE, 0, CALL, 0, NAME, 0, NUMBER, 10, CODE, 0}, around, new int[] {CALL, 0, NAME, 0, NUMBER, 10, NUMBER, 1}));
         flow.compile();
-        words("f(10) is f(5) and f(0)", flow, 1014, 1014);
-        due("f(10), kept", flow.kept(), 7);
+        words("f(10) is f(6) and f(0)", flow, 1014, 1014);
+        due("f(10), kept", flow.kept(), 8);
+        due("f(10) is taken within another", flow.ran(), 8 + 1 + 1);
         flow = doc(together(first, new int[] {CODE, 0, CALL, 0, NAME, 0, NUMBER, 10, CODE, 0}, around, around, new int[] {CALL, 0, NAME, 0, NUMBER, 10, NUMBER, 1, NUMBER, 1}));
         fails("two around f(10)", flow, at(DEEP, 19));
         longBounds();
